@@ -113,8 +113,7 @@ public final class GlassStreet {
             return false;
         }
         history.keep(now);
-        now.step(person, cell);
-        return true;
+        return now.steps(person, cell);
     }
 
     public int does(int person, int deed) {
@@ -130,7 +129,7 @@ public final class GlassStreet {
             return NONE;
         }
         history.keep(now);
-        now.rinse(pane);
+        now.rinses(pane);
         return now.held[pane];
     }
 
@@ -139,8 +138,7 @@ public final class GlassStreet {
             return false;
         }
         history.keep(now);
-        now.pull(pane);
-        return true;
+        return now.pulls(pane);
     }
 
     public boolean stone(int pane) {
@@ -148,8 +146,7 @@ public final class GlassStreet {
             return false;
         }
         history.keep(now);
-        now.smash(pane);
-        return true;
+        return now.smashes(pane);
     }
 
     public int hour() {
@@ -984,18 +981,8 @@ public final class GlassStreet {
             switch (verbs[line]) {
                 case Tape.WALK: return world.steps(first, seconds[line]);
                 case Tape.WASH: return world.rinses(first);
-                case Tape.CURTAIN:
-                    if (world.isBroken(first)) {
-                        return false;
-                    }
-                    world.pull(first);
-                    return true;
-                case Tape.STONE:
-                    if (world.isBroken(first)) {
-                        return false;
-                    }
-                    world.smash(first);
-                    return true;
+                case Tape.CURTAIN: return world.pulls(first);
+                case Tape.STONE: return world.smashes(first);
                 default:
                     world.pass(street);
                     return true;
@@ -1190,15 +1177,11 @@ public final class GlassStreet {
             return cell >= 0 && cell < CELLS && Math.abs(cell - cells[person]) == 1;
         }
 
-        void step(int person, int cell) {
-            cells[person] = cell;
-        }
-
         boolean steps(int person, int cell) {
             if (!canStep(person, cell)) {
                 return false;
             }
-            step(person, cell);
+            cells[person] = cell;
             return true;
         }
 
@@ -1233,24 +1216,28 @@ public final class GlassStreet {
             return !isBroken(pane) && held[pane] > 0;
         }
 
-        void rinse(int pane) {
-            held[pane]--;
-        }
-
         boolean rinses(int pane) {
             if (!canRinse(pane)) {
                 return false;
             }
-            rinse(pane);
+            held[pane]--;
             return true;
         }
 
-        void pull(int pane) {
+        boolean pulls(int pane) {
+            if (isBroken(pane)) {
+                return false;
+            }
             drawn ^= 1 << pane;
+            return true;
         }
 
-        void smash(int pane) {
+        boolean smashes(int pane) {
+            if (isBroken(pane)) {
+                return false;
+            }
             broken |= 1 << pane;
+            return true;
         }
 
         /** An hour passes: how many marks faded. */
