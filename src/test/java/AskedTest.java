@@ -485,6 +485,16 @@ public final class AskedTest {
         y.walk(0, 4);
         Check.due("at 4 the first is seen", 0, y.years(1, 1, 1));
         Check.due("harm", 9, y.years(1, 1, 2));
+        GlassStreet z = Check.made("pane p plain keeps 6 sees 0 ; pane q plain keeps 6 sees 1 ; person a at 0 ; "
+            + "deed d harm 9 ; deed e harm 20 ; fades 0 ;");
+        z.does(0, 0);
+        z.walk(0, 1);
+        z.does(0, 1);
+        Check.due("41: 2242 % 3 = 1: on; 32742 % 9 = 0: 15143 % 2 = 1: q is washed", 9, z.years(41, 1, 2));
+        Check.due("45: 4059 % 3 = 0: back; 2673 % 9 = 0: 15646 % 2 = 0: p is washed", 20, z.years(45, 1, 2));
+        Check.due("no washing stays", 29, z.harm());
+        z.stone(1);
+        Check.due("41: q can't be washed", 29, z.years(41, 1, 2));
         Check.due("no deeds: no draw", 0, Check.made("person a at 5 ;").years(1, 9, 0));
     }
 }

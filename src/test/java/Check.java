@@ -52,7 +52,7 @@ final class Check {
         return x;
     }
 
-    /** The fault of a kind at the first place of a piece of text, -1 standing for its end. */
+    /** The fault of a kind at a place of a text. */
     static int fault(int kind, int place) {
         return kind + 16 * place;
     }

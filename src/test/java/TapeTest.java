@@ -46,6 +46,8 @@ public final class TapeTest {
         fault("a number of 4 digits", "person a at 0010", 4, 12);
         fault("the end is at the length", "person a at   ", 1, 14);
         fault("words part at a digit", "person a1", 1, 8);
+        fault("a word up to z", "zyxwvuts", 1, 0);
+        fault("names of z", "person zz at 1 ; person zz", 3, 24);
         GlassStreet x = Check.made("pane a plain keeps 2sees 0\n1;person b at 0009;deed c harm 07;light 1 0;fades 3<age;");
         Check.due("keeps", 2, x.pane(0, 1));
         Check.due("sees", 3, x.pane(0, 5));
@@ -107,6 +109,8 @@ public final class TapeTest {
             faultAtLast("deed " + word, 1);
         }
         faultAtLast("pane a b", 1);
+        faultAtLast("pane a not", 1);
+        faultAtLast("pane a harm", 1);
         faultAtLast("pane a plain sees", 1);
         faultAtLast("pane a plain keeps 0", 4);
         faultAtLast("pane a plain keeps 7", 4);
@@ -175,6 +179,7 @@ public final class TapeTest {
             x.hour();
         }
         Check.due("light again and again", 110110, Integer.parseInt(light.toString()));
+        Check.due("one hour of no light, again and again", 0, Check.made("light 0 ;").count(4));
         Check.due("twelve hours of light", 0, Check.made("light 1 1 1 1 1 1 1 1 1 1 1 0 ;").count(3));
     }
 
@@ -231,6 +236,10 @@ public final class TapeTest {
         Check.due("(0 and 1) or 1", 1, lasts("0 and 1 or 1"));
         Check.due("and of 2 and 4 is 1", 1, lasts("( 2 and 4 ) = 1"));
         Check.due("or of 0 and 4 is 1", 1, lasts("( 0 or 4 ) = 1"));
+        Check.due("and of 1 and 1", 1, lasts("1 and 1"));
+        Check.due("and of 0 and 1", 20, lasts("0 and 1"));
+        Check.due("or of 1 and 0", 1, lasts("1 or 0"));
+        Check.due("or of 0 and 0", 20, lasts("0 or 0"));
         Check.due("not holds its part alone", 3, lasts("not 7 + 3 = age"));
         Check.due("not 0 is 1", 6, lasts("age = not 0 * 6"));
         Check.due("ints wrap", 1, lasts("9999 * 9999 * 9999 < 0"));
@@ -249,6 +258,7 @@ public final class TapeTest {
         Check.due("its lines", 0, x.count(8));
         Check.due("all lines", 0, Check.day(x, "walk ann 9 ; does ann steal ; wash bay ; curtain bay ; stone bay ; hour ;"));
         Check.due("its lines", 6, x.count(8));
+        Check.due("to 0", 0, Check.day(x, "walk ann 0;walk ann 0;walk ann 1;walk ann 1;walk ann 1;walk ann 1;"));
         Check.due("a fault", Check.fault(1, 0), Check.day(x, "pane"));
         Check.due("the day stays", 6, x.count(8));
         Check.due("a day does nothing", 0, x.count(10));
