@@ -13,6 +13,7 @@ public final class AskedTest {
         hiding();
         proving();
         washing();
+        fullPanes();
         darkening();
         saying();
         remembering();
@@ -175,6 +176,36 @@ public final class AskedTest {
             Check.due("others", -1, x.washes(other, 0));
             Check.due("others", -1, x.washes(0, other));
         }
+    }
+
+    /** The last place of the last pane is held: no asking may look behind it. */
+    private static void fullPanes() {
+        StringBuilder text = new StringBuilder("person a at 0 ; person b at 0 ; deed d harm 3 ; deed e harm 4 ; fades 0 ; ");
+        for (char name = 'p'; name < 'v'; name++) {
+            text.append("pane ").append(name).append(" plain keeps 6 sees 0 ; ");
+        }
+        GlassStreet x = Check.made(text.toString());
+        for (int i = 0; i < 7; i++) {
+            Check.due("seen by all six", 63, x.does(0, 0));
+        }
+        Check.due("all places are held", 36, x.count(5));
+        Check.due("b's: none", 0, x.washes(1, 0));
+        Check.due("a's: all", 36, x.washes(0, 0));
+        Check.due("e: none", 0, x.washes(0, 1));
+        Check.due("behind the newest", -2, x.shown(5, 6, 0));
+        Check.due("the newest", 0, x.shown(5, 5, 2));
+        Check.due("alike", 6, x.twin(4, 5));
+        Check.due("harm", 9, x.harm() + x.memory(1) + x.memory(6));
+        Check.due("young", 36, x.young(0));
+        Check.due("trail and last", 1, x.trail(0) + x.last(0));
+        Check.due("b's trail", 0, x.trail(1));
+        Check.due("b is not shown", -1, x.last(1));
+        Check.due("oldest", 0, x.oldest());
+        Check.due("cloak", 63, x.cloak(0, 2));
+        Check.due("proof of e", -1, x.proof(0, 2));
+        Check.due("never", -1, x.run(5));
+        Check.due("none fades", 0, x.hour());
+        Check.due("the last is washed", 5, x.wash(5));
     }
 
     private static void darkening() {
