@@ -54,7 +54,8 @@ public final class ModelTest {
         if (below(10) > 0) {
             tell(street(), true);
         }
-        while (calls < 500) {
+        // An object is used for at most 512 calls, and one choice makes up to 18.
+        while (calls < 494) {
             int choice = below(100);
             if (choice < 1 && calls < 300) {
                 tell(street(), true);

@@ -184,7 +184,7 @@ public final class TapeTest {
     }
 
     /** How many hours a mark of harm 5 lasts by a law, up to 20; the first hour is lit, the second is not. */
-    private static int lasts(String law) {
+    static int lasts(String law) {
         GlassStreet x = Check.made("pane p plain keeps 6 sees 0 ; person a at 0 ; deed d harm 5 ; light 1 0 ; fades " + law + " ;");
         x.does(0, 0);
         int passed = 0;
