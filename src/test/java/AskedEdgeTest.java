@@ -56,6 +56,7 @@ public final class AskedEdgeTest {
         GlassStreet x = Check.made("pane p plain keeps 1 sees 0 1 2 3 4 ; pane m mirror keeps 1 sees 5 6 7 8 9 ; person a at 4 ;");
         Check.due("none", -1, x.hide(0, 0));
         Check.due("none", -1, x.hide(0, 1));
+        Check.due("six panes", 6, Check.made(ROW).hide(0, 1));
         x.curtain(1);
         Check.due("now one", 1, x.hide(0, 0));
         x.curtain(0);
@@ -151,6 +152,12 @@ public final class AskedEdgeTest {
         x.does(0, 0);
         x.stone(5);
         Check.due("none is whole", 0, x.washes(0, 0));
+        GlassStreet full = Check.made(SIX);
+        for (int i = 0; i < 6; i++) {
+            full.does(0, 0);
+        }
+        Check.due("full of another's", 0, full.washes(1, 0));
+        Check.due("full of another deed", 0, full.washes(0, 1));
     }
 
     private static void darkening() {
@@ -182,6 +189,11 @@ public final class AskedEdgeTest {
         Check.due("3, 6 or 12", 3, z.dark(521));
         Check.due("6 or 12", 6, z.dark(520));
         Check.due("12", 12, z.dark(512));
+        String more = "pane p plain keeps 1 sees %d ; pane q plain keeps 1 sees %d ; pane r plain keeps 1 sees %d ;";
+        Check.due("one ahead of a lesser set of two, 0 first", 4, Check.made(String.format(more, 1, 1, 0)).dark(3));
+        Check.due("one ahead of a lesser set of two, 1 first", 4, Check.made(String.format(more, 0, 0, 1)).dark(3));
+        Check.due("the lesser of two sets of one, 0 first", 1, Check.made(String.format(more, 0, 1, 9)).dark(3));
+        Check.due("the lesser of two sets of one, 1 first", 1, Check.made(String.format(more, 1, 0, 9)).dark(3));
     }
 
     private static void saying() {
@@ -212,6 +224,12 @@ public final class AskedEdgeTest {
             Check.due("not", 511, y.where());
             Check.due("of one", 1, y.count(9));
         }
+        y.say(0, true);
+        y.say(0, true);
+        Check.due("twice the same", 512, y.where());
+        y.say(0, false);
+        y.say(0, false);
+        Check.due("twice the same", 511, y.where());
         y.say(1, true);
         Check.due("of both", 256, y.where());
         Check.due("two", 2, y.count(9));
@@ -355,6 +373,7 @@ public final class AskedEdgeTest {
         Check.due("none by any", 0, y.eyes());
         DOC.says("BLIND: CELLS that no PANE SEES now.");
         Check.due("no pane", 1023, new GlassStreet().blind());
+        Check.due("six panes, a cell each", 960, Check.made(ROW).blind());
         Check.due("one sees all", 0, Check.made("pane p plain keeps 1 sees 0 1 2 3 4 5 6 7 8 9 ;").blind());
         GlassStreet z = Check.made("pane p plain keeps 1 sees 0 9 ; pane q thick keeps 1 sees 5 ; light 1 0 ;");
         Check.due("0, 5, 9 are seen", 1023 & ~(1 | 32 | 512), z.blind());
@@ -380,6 +399,7 @@ public final class AskedEdgeTest {
         Check.due("by a broken one", 3, x.trail(0));
         x.curtain(0);
         Check.due("not behind a curtain", 2, x.trail(0));
+        Check.due("of five panes of six", 31, walked(ROW, 5).trail(0));
         DOC.says("LAST of a PERSON: the CELL of that one of the least age (of equal ones of the first PANE, there the newest).");
         GlassStreet y = Check.made("pane p plain keeps 6 sees 0 1 ; pane q plain keeps 6 sees 1 2 3 ; person a at 0 ; person b at 9 ; " + DEEDS);
         Check.due("none", -1, y.last(0));
@@ -402,6 +422,7 @@ public final class AskedEdgeTest {
         y.curtain(0);
         Check.due("a broken one's do not age", 1, y.last(0));
         Check.due("not b", -1, y.last(1));
+        Check.due("of six panes the first", 0, walked(ROW, 5).last(0));
     }
 
     private static void worst() {
@@ -475,6 +496,11 @@ public final class AskedEdgeTest {
         x.stone(4);
         Check.due("no more: 16 stays", -1, x.cloak(0, 15));
         Check.due("16 is so much", 15, x.cloak(0, 16));
+        GlassStreet drawn = walked(ROW, 5);
+        drawn.curtain(4);
+        drawn.stone(4);
+        Check.due("drawn and no more: it can't be drawn, and 16 stays", -1, drawn.cloak(0, 15));
+        Check.due("the four others", 15, drawn.cloak(0, 16));
         GlassStreet six = Check.made(SIX);
         six.does(0, 4);
         Check.due("all six", 63, six.cloak(0, 15));

@@ -411,6 +411,11 @@ public final class PromiseEdgeTest {
         Check.due("all can be", -1, x.judged(0));
         Check.due("unseen", 1, x.judged(1));
         Check.due("no harm", 0, x.judged(2));
+        for (int i = 0; i < 3; i++) {
+            Check.due("a third day", 0, Check.day(x, "does b e ;"));
+            Check.due("nothing of the elder ones", -2, x.judged(0) + x.judged(1));
+            Check.due("harm", 7, x.judged(2));
+        }
         doc.end();
     }
 
@@ -633,6 +638,12 @@ public final class PromiseEdgeTest {
         Check.due("drawn and broken ones, too", 1, x.young(0));
         Check.due("1", 2, x.young(1));
         Check.due("2", 3, x.young(2));
+        GlassStreet six = Check.made("person a at 0 ; deed d harm 1 ; " + "pane %s plain keeps 6 sees 0 ; ".repeat(6)
+            .formatted("p", "q", "r", "s", "t", "u"));
+        for (int i = 0; i < 7; i++) {
+            six.does(0, 0);
+        }
+        Check.due("six full panes", 36, six.young(0));
         doc.end();
     }
 

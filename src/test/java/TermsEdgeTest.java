@@ -335,6 +335,12 @@ public final class TermsEdgeTest {
         Check.due("a wrong one", Check.fault(1, 20), Check.street(again, "light 0 ; fades 0 ; x"));
         Check.due("leaves none behind", 0, Check.street(again, "light 1 ; fades 1 ;"));
         Check.due("by light", 1, again.count(4));
+        Check.due("a longer law", 0, Check.street(again, "fades not 1 ;"));
+        Check.due("another street", 0, Check.street(again, "person a at 1 ;"));
+        Check.due("a shorter law", 0, Check.street(again, ROW + "fades 1 ;"));
+        again.walk(0, 1);
+        again.does(0, 0);
+        Check.due("nothing of the longer one is left", 1, again.hour());
         Check.due("untold then", 0, Check.street(again, ROW));
         again.walk(0, 1);
         again.does(0, 0);
@@ -729,6 +735,7 @@ public final class TermsEdgeTest {
                 Check.due("a notch is there", isWrong, x.notch(notch, true));
             }
         }
+        elderStreets();
         GlassStreet y = Check.made(other);
         y.hour();
         Check.due("an hour can be undone", 1, y.count(10));
@@ -740,6 +747,43 @@ public final class TermsEdgeTest {
         Check.due("all is possible", 1023, y.where());
         y.notch(2, false);
         Check.due("nothing on it", false, y.notch(1, true));
+    }
+
+    /** A small street behind two full ones: nothing of these is asked, seen or counted any more. */
+    private static void elderStreets() {
+        String full = lines("pane %s mirror keeps 6 sees 0 1 2 3 4 ; ", 6) + lines(PERSON, 5).replace("person ", "person x")
+            + lines("deed %s harm 99 ; ", 5).replace("deed ", "deed y") + "light 0 0 0 0 0 0 0 0 0 0 0 0 ; fades 0 ;";
+        String small = "pane p plain keeps 1 sees 0 ; person a at 0 ; deed d harm 3 ;";
+        GlassStreet x = new GlassStreet();
+        for (int i = 0; i < 2; i++) {
+            Check.due("a full street", 0, Check.street(x, full));
+            for (int j = 0; j < 6; j++) {
+                x.does(j % 5, j % 5);
+            }
+            x.say(5, true);
+            Check.due("36 marks", 36, x.count(5));
+        }
+        Check.due("a small street", 0, Check.street(x, small));
+        GlassStreet y = Check.made(small);
+        for (int done = 0; done < 2; done++) {
+            Check.due("as of a new object", asked(y), asked(x));
+            Check.due("and its state", Check.state(y), Check.state(x));
+            Check.due("the deed", 1, y.does(0, 0));
+            Check.due("the deed", 1, x.does(0, 0));
+        }
+    }
+
+    /** Some answers to all that is asked of a whole street, 27 calls. */
+    private static String asked(GlassStreet x) {
+        int[] answers = {x.harm(), x.where(), x.ask(), x.eyes(), x.blind(), x.worst(), x.oldest(), x.young(99), x.memory(6),
+            x.glass(1), x.hide(0, 1), x.dark(1), x.seen(0), x.trail(0), x.last(0), x.shame(0), x.shame(1), x.proof(0, 1),
+            x.washes(0, 0), x.cloak(0, 0), x.run(0), x.run(1), x.twin(0, 1), x.person(1), x.years(7, 50, 0), x.years(7, 50, 1),
+            x.years(7, 50, 2)};
+        StringBuilder all = new StringBuilder();
+        for (int answer : answers) {
+            all.append(answer).append(' ');
+        }
+        return all.toString();
     }
 
     private static void newDays() {
