@@ -631,7 +631,7 @@ public final class GlassStreet {
         }
 
         /** Reads what a level of the E is made of; the whole is the level CHOICES within no other. */
-        boolean readsLevel(Tape tape, int level, int depth) {
+        private boolean readsLevel(Tape tape, int level, int depth) {
             if (level >= PARTS) {
                 return readsPart(tape, depth);
             }
@@ -675,7 +675,15 @@ public final class GlassStreet {
             }
             if (isGroup) {
                 tape.advance();
-                return readsLevel(tape, CHOICES, depth + 1) && tape.takesSign(')');
+                if (!readsLevel(tape, CHOICES, depth + 1)) {
+                    return false;
+                }
+                // Not by takesSign: with it calls would go nine deep, and rule 11 of LANGUAGE.md leaves eight.
+                if (!tape.isSign(')')) {
+                    return tape.isWrong(Tape.CANNOT_STAND);
+                }
+                tape.advance();
+                return true;
             }
             if (isNot) {
                 tape.advance();

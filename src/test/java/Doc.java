@@ -22,18 +22,23 @@ final class Doc {
 
     /** What stands between two marks of the document. */
     static Doc part(String begin, String end) {
+        return new Doc(begin, bare(between(begin, end)));
+    }
+
+    /** The same with its headings and code, as it stands; empty where the document is not at hand. */
+    static String between(String begin, String end) {
         String path = System.getProperty("doc", "../shared/DOC.md");
         if (!Files.isReadable(Path.of(path))) {
-            return new Doc(begin, "");
+            return "";
         }
         try {
             String all = Files.readString(Path.of(path));
             int from = all.indexOf(begin);
-            int to = from < 0 ? -1 : all.indexOf(end, from + begin.length());
+            int to = from < 0 ? -1 : end.isEmpty() ? all.length() : all.indexOf(end, from + begin.length());
             Check.due("the document has the part from " + begin + " to " + end, true, from >= 0 && to > from);
-            return new Doc(begin, from >= 0 && to > from ? bare(all.substring(from, to)) : "");
+            return from >= 0 && to > from ? all.substring(from, to) : "";
         } catch (IOException unread) {
-            return new Doc(begin, "");
+            return "";
         }
     }
 
